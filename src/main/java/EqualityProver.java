@@ -214,38 +214,75 @@ public final class EqualityProver {
         return true;
     }
 
-    /** The terms by their numbers; what is in a term always has a lower number than the term. */
-    private static final class TermTable {
-        private final int[] kinds = new int[MAX_TERMS];
-        private final int[] firsts = new int[MAX_TERMS];
-        private final int[] seconds = new int[MAX_TERMS];
-        private final int[] variables = new int[MAX_TERMS];
+    /**
+     * Terms, or things, by their numbers: the kind of each, and the numbers of those that stand in it,
+     * which are always lower; 0 where nothing stands. A constant has its own number for its first.
+     */
+    private abstract static class NumberedTable {
+        private final int[] kinds;
+        private final int[] firsts;
+        private final int[] seconds;
         private int count = 0;
 
-        TermTable(int constants) {
-            for (int i = 0; i < constants; i++) {
-                findOrAdd(CONSTANT, i, 0);
-            }
+        NumberedTable(int room) {
+            kinds = new int[room];
+            firsts = new int[room];
+            seconds = new int[room];
         }
 
-        int size() {
+        final int size() {
             return count;
         }
 
-        boolean has(int number) {
+        final boolean has(int number) {
             return number >= 0 && number < count;
         }
 
-        int kindOf(int number) {
+        final int kindOf(int number) {
             return kinds[number];
         }
 
-        int firstOf(int number) {
+        final int firstOf(int number) {
             return firsts[number];
         }
 
-        int secondOf(int number) {
+        final int secondOf(int number) {
             return seconds[number];
+        }
+
+        final int find(int kind, int first, int second) {
+            for (int i = 0; i < count; i++) {
+                if (kinds[i] == kind && firsts[i] == first && seconds[i] == second) {
+                    return i;
+                }
+            }
+            return NONE;
+        }
+
+        final int add(int kind, int first, int second) {
+            if (count >= kinds.length) {
+                return NONE;
+            }
+            kinds[count] = kind;
+            firsts[count] = first;
+            seconds[count] = second;
+            count++;
+            return count - 1;
+        }
+
+        final void shrinkTo(int size) {
+            count = size;
+        }
+    }
+
+    private static final class TermTable extends NumberedTable {
+        private final int[] variables = new int[MAX_TERMS];
+
+        TermTable(int constants) {
+            super(MAX_TERMS);
+            for (int i = 0; i < constants; i++) {
+                add(CONSTANT, i, 0);
+            }
         }
 
         int variablesOf(int number) {
@@ -254,24 +291,15 @@ public final class EqualityProver {
 
         /** The number of a term, which is made if it is not there; NONE if there is no room. */
         int findOrAdd(int kind, int first, int second) {
-            for (int i = 0; i < count; i++) {
-                if (kinds[i] == kind && firsts[i] == first && seconds[i] == second) {
-                    return i;
-                }
+            int known = find(kind, first, second);
+            if (known != NONE) {
+                return known;
             }
-            if (count >= MAX_TERMS) {
-                return NONE;
+            int made = add(kind, first, second);
+            if (made != NONE) {
+                variables[made] = variablesIn(kind, first, second);
             }
-            kinds[count] = kind;
-            firsts[count] = first;
-            seconds[count] = second;
-            variables[count] = variablesIn(kind, first, second);
-            count++;
-            return count - 1;
-        }
-
-        void shrinkTo(int size) {
-            count = size;
+            return made;
         }
 
         private int variablesIn(int kind, int first, int second) {
@@ -290,66 +318,32 @@ public final class EqualityProver {
         }
     }
 
-    /** The things by their numbers; what is in a thing is a thing with a lower number. */
-    private static final class ThingTable {
+    private static final class ThingTable extends NumberedTable {
         private final int[] termNumbers = new int[MAX_THINGS];
-        private final int[] kinds = new int[MAX_THINGS];
-        private final int[] firsts = new int[MAX_THINGS];
-        private final int[] seconds = new int[MAX_THINGS];
-        private int count = 0;
 
         ThingTable(int constants) {
+            super(MAX_THINGS);
             for (int i = 0; i < constants; i++) {
-                findOrAdd(i, CONSTANT, 0, 0);
+                add(CONSTANT, i, 0);
+                termNumbers[i] = i;
             }
-        }
-
-        int size() {
-            return count;
-        }
-
-        boolean has(int number) {
-            return number >= 0 && number < count;
         }
 
         int termOf(int number) {
             return termNumbers[number];
         }
 
-        int kindOf(int number) {
-            return kinds[number];
-        }
-
-        /** The thing that stands first in a thing F or G. */
-        int firstOf(int number) {
-            return firsts[number];
-        }
-
-        /** The thing that stands second in a thing G; thing 0 for F, so that all F agree there. */
-        int secondOf(int number) {
-            return seconds[number];
-        }
-
-        /** The thing that a term is, made one if it is none; NONE if there is no room. */
+        /** The thing of these things, made of this term if it is not there; NONE if there is no room. */
         int findOrAdd(int termNumber, int kind, int first, int second) {
-            for (int i = 0; i < count; i++) {
-                if (termNumbers[i] == termNumber) {
-                    return i;
-                }
+            int known = find(kind, first, second);
+            if (known != NONE) {
+                return known;
             }
-            if (count >= MAX_THINGS) {
-                return NONE;
+            int made = add(kind, first, second);
+            if (made != NONE) {
+                termNumbers[made] = termNumber;
             }
-            termNumbers[count] = termNumber;
-            kinds[count] = kind;
-            firsts[count] = first;
-            seconds[count] = second;
-            count++;
-            return count - 1;
-        }
-
-        void shrinkTo(int size) {
-            count = size;
+            return made;
         }
     }
 
@@ -414,7 +408,7 @@ public final class EqualityProver {
         }
 
         /** The thing that a term becomes, made with all that is in it; NONE if there is no room. */
-        int thingFor(int number, TermTable table, ThingTable target, int depth) {
+        private int thingFor(int number, TermTable table, ThingTable target, int depth) {
             switch (table.kindOf(number)) {
                 case CONSTANT:
                     // The constants are the first terms and the first things.
@@ -491,7 +485,7 @@ public final class EqualityProver {
         /** One more literal in the instance that has begun. */
         void join(int s, int t, boolean equal) {
             if (s == t) {
-                nextAlwaysHolds |= equal;
+                nextAlwaysHolds = nextAlwaysHolds || equal;
             } else if (equal) {
                 nextEqual |= pair(s, t);
             } else {
@@ -573,6 +567,7 @@ public final class EqualityProver {
             if (kind == CONSTANT) {
                 return true;
             }
+            // All F have 0 for their second one, so that they never differ there.
             for (int i = 0; i < last; i++) {
                 if (table.kindOf(i) == kind
                         && labels[table.firstOf(i)] == labels[table.firstOf(last)]

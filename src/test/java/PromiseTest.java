@@ -270,6 +270,17 @@ public final class PromiseTest {
         due("21 terms again", STATE, () -> r.clause());
         due("terms()", 20, () -> r.terms());
 
+        EqualityProver half = new EqualityProver(1);
+        half.term(F, 0, 0);
+        while (half.terms() < 18) {
+            half.term(F, half.terms() - 1, 0);
+        }
+        int halfFx = half.term(F, half.term(X, 0, 0), 0);
+        half.literal(halfFx, halfFx, false);
+        due("no room for the second instance", STATE, () -> half.clause());
+        due("contradict() when the first instance is not kept", false, () -> half.contradict());
+        due("things()", 2, () -> half.things());
+
         EqualityProver s = withTerms(0, 18);
         int sx = s.term(X, 0, 0);
         int fx = s.term(F, sx, 0);
