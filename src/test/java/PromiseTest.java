@@ -1,84 +1,7 @@
-import java.util.NoSuchElementException;
-
 /** Each promise of the document with ordinary inputs, the edges that it names, and wrong inputs. */
-public final class PromiseTest {
-    private static final int F = 1;
-    private static final int G = 2;
-    private static final int X = 3;
-    private static final int Y = 4;
-
-    private static final String ARGUMENT = "IllegalArgumentException";
-    private static final String STATE = "IllegalStateException";
-    private static final String NO_ELEMENT = "NoSuchElementException";
-
-    private static String section = "";
-    private static int checks = 0;
-    private static int wrong = 0;
-
-    private interface Call {
-        Object make();
-    }
-
-    private static Object answer(Call call) {
-        try {
-            return call.make();
-        } catch (IllegalArgumentException | IllegalStateException | NoSuchElementException e) {
-            return e.getClass().getSimpleName();
-        }
-    }
-
-    /** The exception's name stands for a call that throws. */
-    private static void due(String what, Object want, Call call) {
-        Object got = answer(call);
-        checks++;
-        if (!got.equals(want)) {
-            wrong++;
-            System.out.println(section + ": " + what + " answered " + got + ", due is " + want);
-        }
-    }
-
-    private static void clause(EqualityProver p, int... pairs) {
-        for (int i = 0; i + 1 < pairs.length; i += 2) {
-            p.literal(pairs[i], pairs[i + 1], true);
-        }
-        p.clause();
-    }
-
-    private static void clauseNot(EqualityProver p, int s, int t) {
-        p.literal(s, t, false);
-        p.clause();
-    }
-
-    private static String labels(EqualityProver p) {
-        StringBuilder all = new StringBuilder();
-        for (int k = 0; k < p.things(); k++) {
-            all.append(p.label(k));
-        }
-        return all.toString();
-    }
-
-    private static String thingTerms(EqualityProver p) {
-        StringBuilder all = new StringBuilder();
-        for (int k = 0; k < p.things(); k++) {
-            all.append(all.length() == 0 ? "" : " ").append(p.thing(k));
-        }
-        return all.toString();
-    }
-
-    private static String shape(EqualityProver p, int term) {
-        return p.look(term, 0) + "," + p.look(term, 1) + "," + p.look(term, 2);
-    }
-
-    private static EqualityProver withTerms(int constants, int count) {
-        EqualityProver p = new EqualityProver(constants);
-        while (p.terms() < count) {
-            p.term(F, p.terms() - 1, 0);
-        }
-        return p;
-    }
-
+public final class PromiseTest extends Checks {
     private static void newObject() {
-        section = "Promise 1";
+        section("Promise 1");
         int[] arguments = {0, 1, 2, 3, 4, 7, -1, -2, -3, -4, -5, Integer.MAX_VALUE, Integer.MIN_VALUE};
         int[] constants = {1, 2, 3, 4, 1, 4, 4, 3, 2, 1, 4, 4, 1};
         for (int i = 0; i < arguments.length; i++) {
@@ -100,7 +23,7 @@ public final class PromiseTest {
     }
 
     private static void terms() {
-        section = "Promise 2";
+        section("Promise 2");
         EqualityProver p = new EqualityProver(1);
         due("term(F, 0, 77)", 2, () -> p.term(F, 0, 77));
         due("term(F, 0, -5)", 2, () -> p.term(F, 0, -5));
@@ -138,7 +61,7 @@ public final class PromiseTest {
     }
 
     private static void literals() {
-        section = "Promise 3";
+        section("Promise 3");
         EqualityProver p = new EqualityProver(1);
         p.term(X, 0, 0);
         for (int bad : new int[] {-1, 3, 20, Integer.MAX_VALUE, Integer.MIN_VALUE}) {
@@ -158,7 +81,7 @@ public final class PromiseTest {
     }
 
     private static void instanceCounts() {
-        section = "Promise 4, instances";
+        section("Promise 4, instances");
         for (int constants = 1; constants <= 4; constants++) {
             int n = constants;
             EqualityProver p = new EqualityProver(n - 1);
@@ -186,7 +109,7 @@ public final class PromiseTest {
     }
 
     private static void orderOfThings() {
-        section = "Promise 4, order";
+        section("Promise 4, order");
         EqualityProver p = new EqualityProver(1);
         int x = p.term(X, 0, 0);
         int y = p.term(Y, 0, 0);
@@ -233,7 +156,7 @@ public final class PromiseTest {
     }
 
     private static void clauseLimits() {
-        section = "Promise 4, limits";
+        section("Promise 4, limits");
         EqualityProver p = new EqualityProver(0);
         for (int i = 0; i < 16; i++) {
             p.literal(0, 0, true);
@@ -304,7 +227,7 @@ public final class PromiseTest {
     }
 
     private static void levels() {
-        section = "Promise 5";
+        section("Promise 5");
         EqualityProver p = new EqualityProver(1);
         p.literal(0, 1, true);
         for (int i = 1; i <= 4; i++) {
@@ -315,7 +238,7 @@ public final class PromiseTest {
         due("level()", 4, () -> p.level());
         due("the draft stays", 2, () -> p.literal(0, 1, true));
 
-        section = "Promise 6";
+        section("Promise 6");
         EqualityProver q = new EqualityProver(1);
         due("close() at level 0", STATE, () -> q.close());
         int f0 = q.term(F, 0, 0);
@@ -360,7 +283,7 @@ public final class PromiseTest {
     }
 
     private static void contradictions() {
-        section = "Promise 7";
+        section("Promise 7");
         EqualityProver empty = new EqualityProver(0);
         due("without clauses", false, () -> empty.contradict());
         empty.clause();
@@ -414,7 +337,7 @@ public final class PromiseTest {
     }
 
     private static void consequences() {
-        section = "Promise 8";
+        section("Promise 8");
         EqualityProver p = new EqualityProver(3);
         due("follows(1, 1, true)", true, () -> p.follows(1, 1, true));
         due("follows(1, 1, false)", false, () -> p.follows(1, 1, false));
@@ -457,7 +380,7 @@ public final class PromiseTest {
     }
 
     private static void leastWorlds() {
-        section = "Promise 9";
+        section("Promise 9");
         EqualityProver p = new EqualityProver(3);
         due("labels without clauses", "0000", () -> labels(p));
         p.open();
@@ -526,7 +449,7 @@ public final class PromiseTest {
     }
 
     private static void readings() {
-        section = "Promise 10";
+        section("Promise 10");
         EqualityProver p = new EqualityProver(2);
         int x = p.term(X, 0, 0);
         int g = p.term(G, 1, 2);
@@ -539,7 +462,7 @@ public final class PromiseTest {
             due("thing(" + bad + ")", ARGUMENT, () -> p.thing(bad));
         }
 
-        section = "Promise 11";
+        section("Promise 11");
         due("things()", 4, () -> p.things());
         clause(p, x, x);
         due("things() after a clause without new ones", 4, () -> p.things());
@@ -549,14 +472,14 @@ public final class PromiseTest {
         p.clause();
         due("things() after F(X) = X", 7, () -> p.things());
 
-        section = "Promise 12";
+        section("Promise 12");
         due("terms()", 9, () -> p.terms());
         p.term(Y, 0, 0);
         due("terms() after Y", 10, () -> p.terms());
         p.term(Y, 1, 1);
         due("terms() after Y again", 10, () -> p.terms());
 
-        section = "Promise 13";
+        section("Promise 13");
         due("constant 0", "0,0,0", () -> shape(p, 0));
         due("constant 2", "0,2,0", () -> shape(p, 2));
         due("X", "3,0,0", () -> shape(p, x));
@@ -578,7 +501,7 @@ public final class PromiseTest {
             due("look(0, " + bad + ")", ARGUMENT, () -> p.look(0, bad));
         }
 
-        section = "Promise 14";
+        section("Promise 14");
         due("clauses()", 3, () -> p.clauses());
         p.open();
         p.clause();
@@ -588,7 +511,7 @@ public final class PromiseTest {
         p.literal(0, 0, true);
         due("clauses() with a draft", 3, () -> p.clauses());
 
-        section = "Promise 15";
+        section("Promise 15");
         due("level()", 0, () -> p.level());
         p.open();
         p.open();
@@ -609,9 +532,6 @@ public final class PromiseTest {
         consequences();
         leastWorlds();
         readings();
-        System.out.println(wrong == 0 ? checks + " answers are as due" : wrong + " answers are not as due");
-        if (wrong != 0) {
-            System.exit(1);
-        }
+        finish();
     }
 }
