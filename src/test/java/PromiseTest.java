@@ -282,6 +282,37 @@ public final class PromiseTest extends Checks {
         due("a clause after close()", 1, () -> full.clause());
     }
 
+    /** Each literal of a clause follows once the three others do not hold, wherever it stands in it. */
+    private static void literalsOfOneClause(boolean claim) {
+        section("Terms, a clause holds when one of its literals does");
+        int[][] pairs = {{0, 1}, {1, 2}, {2, 3}, {0, 4}};
+        for (int turn = 0; turn < 4; turn++) {
+            for (int left = 0; left < 4; left++) {
+                EqualityProver p = new EqualityProver(3);
+                p.term(F, 0, 0);
+                for (int i = 0; i < 4; i++) {
+                    int[] pair = pairs[(i + turn) % 4];
+                    p.literal(pair[0], pair[1], (pair[1] != 4) == claim);
+                }
+                due("clause()", 1, () -> p.clause());
+                int[] last = pairs[left];
+                boolean lastClaim = (last[1] != 4) == claim;
+                due("it follows not by itself", false, () -> p.follows(last[0], last[1], lastClaim));
+                for (int i = 0; i < 4; i++) {
+                    if (i != left) {
+                        p.literal(pairs[i][0], pairs[i][1], (pairs[i][1] != 4) != claim);
+                        p.clause();
+                    }
+                }
+                due("contradict()", false, () -> p.contradict());
+                due("the last one follows", true, () -> p.follows(last[0], last[1], lastClaim));
+                p.literal(last[0], last[1], !lastClaim);
+                p.clause();
+                due("contradict() when none holds", true, () -> p.contradict());
+            }
+        }
+    }
+
     private static void contradictions() {
         section("Promise 7");
         EqualityProver empty = new EqualityProver(0);
@@ -528,6 +559,8 @@ public final class PromiseTest extends Checks {
         orderOfThings();
         clauseLimits();
         levels();
+        literalsOfOneClause(true);
+        literalsOfOneClause(false);
         contradictions();
         consequences();
         leastWorlds();
